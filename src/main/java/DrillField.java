@@ -41,8 +41,8 @@ public final class DrillField {
     // the spare one, and the two change places when it is well.
     private Text text = new Text();
     private Text spareText = new Text();
-    private Record record = new Record();
-    private Record spareRecord = new Record();
+    private Course course = new Course();
+    private Course spareCourse = new Course();
 
     private int latestStatus = FINE;
     private int faultKind = NONE;
@@ -200,16 +200,16 @@ public final class DrillField {
         if (!text.told) {
             return none(NOTHING);
         }
-        drill.stepThrough(text, ground, spareRecord);
+        drill.stepThrough(text, ground, spareCourse);
         errorKind = drill.errorKind;
         errorPlace = drill.errorPlace;
         if (errorKind != 0) {
             return none(AT_FAULT);
         }
-        Record behind = record;
-        record = spareRecord;
-        spareRecord = behind;
-        return answer(record.last);
+        Course behind = course;
+        course = spareCourse;
+        spareCourse = behind;
+        return answer(course.last);
     }
 
     public int error(int what) {
@@ -217,20 +217,20 @@ public final class DrillField {
     }
 
     public int at(int count, int marcher, int what) {
-        if (!record.made) {
+        if (!course.made) {
             return none(NOTHING);
         }
-        if (!record.hasCount(count) || !record.hasMarcher(marcher)) {
+        if (!course.hasCount(count) || !course.hasMarcher(marcher)) {
             return none(NO_SUCH);
         }
         if (what == 0) {
-            return answer(record.eastOf(count, marcher));
+            return answer(course.eastOf(count, marcher));
         }
         if (what == 1) {
-            return answer(record.northOf(count, marcher));
+            return answer(course.northOf(count, marcher));
         }
         if (what == 2) {
-            return answer(record.faceOf(count, marcher));
+            return answer(course.faceOf(count, marcher));
         }
         return none(BAD_NUMBER);
     }
@@ -239,20 +239,20 @@ public final class DrillField {
         if (what < 0 || what > 4) {
             return none(BAD_NUMBER);
         }
-        if (!record.made) {
+        if (!course.made) {
             return none(NOTHING);
         }
         switch (what) {
             case 0:
-                return answer(record.clashes());
+                return answer(course.clashes());
             case 1:
-                return answer(record.hits(ground));
+                return answer(course.hits(ground));
             case 2:
-                return answer(record.stepsAbove(ground.longStep));
+                return answer(course.stepsAbove(ground.longStep));
             case 3:
-                return answer(record.turnsNotWell);
+                return answer(course.turnsNotWell);
             default:
-                return answer(record.greatestStep());
+                return answer(course.greatestStep());
         }
     }
 
@@ -260,52 +260,52 @@ public final class DrillField {
         if (what < 0 || what > 2) {
             return none(BAD_NUMBER);
         }
-        int found = record.made ? record.findClash(k) : NONE;
+        int found = course.made ? course.findClash(k) : NONE;
         if (found == NONE) {
             return none(NOTHING);
         }
         if (what == 0) {
-            return answer(Record.countOfClash(found));
+            return answer(Course.countOfClash(found));
         }
-        return answer(what == 1 ? Record.lesserOfClash(found) : Record.greaterOfClash(found));
+        return answer(what == 1 ? Course.lesserOfClash(found) : Course.greaterOfClash(found));
     }
 
     public int dressed(int group, int count) {
-        if (!record.made) {
+        if (!course.made) {
             return none(NOTHING);
         }
-        if (group < 0 || group >= ground.groups || !record.hasCount(count)) {
+        if (group < 0 || group >= ground.groups || !course.hasCount(count)) {
             return none(NO_SUCH);
         }
         int set = ground.groupSet[group];
-        if (!record.hasAll(set)) {
+        if (!course.hasAll(set)) {
             return none(NO_SUCH);
         }
-        return answer(record.isDressed(set, count) ? 1 : 0);
+        return answer(course.isDressed(set, count) ? 1 : 0);
     }
 
     public int like(int count, int other) {
-        if (!record.made) {
+        if (!course.made) {
             return none(NOTHING);
         }
-        if (!record.hasCount(count) || !record.hasCount(other)) {
+        if (!course.hasCount(count) || !course.hasCount(other)) {
             return none(NO_SUCH);
         }
-        int way = record.likeness(count, other);
+        int way = course.likeness(count, other);
         return way == NONE ? none(NOTHING) : answer(way);
     }
 
     public int seen(int count, int east, int below) {
-        if (!record.made) {
+        if (!course.made) {
             return none(NOTHING);
         }
-        if (!record.hasCount(count)) {
+        if (!course.hasCount(count)) {
             return none(NO_SUCH);
         }
         if (east < 0 || east >= Ground.EASTS || below < 1 || below > 40) {
             return none(BAD_NUMBER);
         }
-        return answer(record.seenFrom(count, east, below));
+        return answer(course.seenFrom(count, east, below));
     }
 
     // ---- GOES, PATHS
@@ -355,10 +355,8 @@ public final class DrillField {
     }
 
     public int move(int k) {
-        if (k < 0 || k >= ways.length) {
-            return none(NOTHING);
-        }
-        return answer(ways.moves[k]);
+        int found = ways.moveAt(k);
+        return found == NONE ? none(NOTHING) : answer(found);
     }
 
     // ---- PERSONS, MARKS
@@ -712,7 +710,7 @@ public final class DrillField {
         }
     }
 
-    /** The tape, and the reading of a TEXT from it up to its first FAULT. */
+    /** The tape, and the reading of a TEXT from it, TOKEN by TOKEN, up to its first FAULT. */
     private static final class Reader {
         private static final int TAPE = 500;
         private static final int NO_TOKEN = 1;
@@ -721,11 +719,26 @@ public final class DrillField {
         private static final int CANT_BE = 4;
         private static final int ONE_MORE = 5;
         private static final int TOO_DEEP = 6;
+
         private static final int BAD = 0;
         private static final int END = 1;
         private static final int WORD = 2;
         private static final int NUMBER = 3;
         private static final int SIGN = 4;
+
+        // What can stand next: of NUMBERS each sort, by what they may be.
+        private static final int A_NAME = 0;
+        private static final int A_COLON = 1;
+        private static final int AN_ORDER = 2;
+        private static final int A_BRACE = 3;
+        private static final int A_SIDE = 4;
+        private static final int COUNTS = 5;
+        private static final int EIGHTHS = 6;
+        private static final int TIMES = 7;
+        private static final int EASTWARD = 8;
+        private static final int NORTHWARD = 9;
+        private static final int OFTEN = 10;
+
         private static final int DEEPEST = 3;
         private static final int NO_WORD = -1;
         /** By the kinds of ORDERS, their WORDS as numbers of 5 bits a letter: go, back, mark, .. */
@@ -744,8 +757,12 @@ public final class DrillField {
         private int token = END;
         private int tokenPlace = 0;
         private long tokenValue = 0;
+        private int wanted = A_NAME;
+        /** The ORDER that is being read, and whether a - stood ahead of its NUMBER. */
+        private int order = 0;
+        private boolean minus = false;
         /** Which again ORDERS are open, and how many. */
-        private final int[] open = new int[DEEPEST];
+        private final int[] openAgains = new int[DEEPEST];
         private int depth = 0;
         /** The GROUPS that have a LINE, as bits. */
         private int lined = 0;
@@ -766,20 +783,51 @@ public final class DrillField {
             cursor = 0;
             faultKind = 0;
             faultPlace = NONE;
+            wanted = A_NAME;
+            minus = false;
+            depth = 0;
             lined = 0;
             text.clear();
             for (int guard = 0; guard <= TAPE && faultKind == 0; guard++) {
                 nextToken();
-                if (token == END) {
+                if (token == END && wanted == A_NAME) {
                     break;
                 }
-                readLine(text, ground);
+                takeToken(text, ground);
             }
             text.told = faultKind == 0;
         }
 
-        private void readLine(Text text, Ground ground) {
-            if (!isToken(WORD)) {
+        private void takeToken(Text text, Ground ground) {
+            if (token == BAD) {
+                fail(NO_TOKEN);
+                return;
+            }
+            switch (wanted) {
+                case A_NAME:
+                    takeName(text, ground);
+                    break;
+                case A_COLON:
+                    takeColon();
+                    break;
+                case AN_ORDER:
+                    takeOrder(text);
+                    break;
+                case A_BRACE:
+                    takeBrace();
+                    break;
+                case A_SIDE:
+                    takeSide(text);
+                    break;
+                default:
+                    takeNumber(text);
+                    break;
+            }
+        }
+
+        private void takeName(Text text, Ground ground) {
+            if (token != WORD) {
+                fail(CANT_STAND);
                 return;
             }
             int group = ground.groupNamed(tokenValue);
@@ -789,141 +837,149 @@ public final class DrillField {
             }
             lined |= 1 << group;
             text.beginLine(ground.groupSet[group]);
-            readSign(':');
-            readOrders(text);
-            if (faultKind == 0) {
+            wanted = A_COLON;
+        }
+
+        private void takeColon() {
+            if (!isSign(':')) {
+                fail(CANT_STAND);
+                return;
+            }
+            wanted = AN_ORDER;
+        }
+
+        /** An ORDER's WORD, or what ends a LINE or an again. */
+        private void takeOrder(Text text) {
+            if (depth == 0 && isSign(';')) {
                 text.endLine();
+                wanted = A_NAME;
+            } else if (depth > 0 && isSign('}')) {
+                depth--;
+                text.end[openAgains[depth]] = text.orders;
+            } else {
+                takeOrderWord(text, token == WORD ? kindOf(tokenValue) : NONE);
             }
         }
 
-        /** Reads up to the ; behind a LINE's last ORDER. */
-        private void readOrders(Text text) {
-            depth = 0;
-            for (int guard = 0; guard <= TAPE && faultKind == 0; guard++) {
-                nextToken();
-                if (depth == 0 && isSign(';')) {
-                    return;
-                }
-                if (depth > 0 && isSign('}')) {
-                    depth--;
-                    text.end[open[depth]] = text.orders;
-                } else if (isToken(WORD)) {
-                    readOrder(text, kindOf(tokenValue));
-                }
-            }
-        }
-
-        private void readOrder(Text text, int kind) {
+        private void takeOrderWord(Text text, int kind) {
             if (kind == NONE) {
                 fail(CANT_STAND);
-                return;
-            }
-            if (text.orders >= Text.MOST_ORDERS) {
+            } else if (text.orders >= Text.MOST_ORDERS) {
                 fail(ONE_MORE);
-                return;
-            }
-            if (kind == Text.AGAIN && depth >= DEEPEST) {
+            } else if (kind == Text.AGAIN && depth >= DEEPEST) {
                 fail(TOO_DEEP);
-                return;
-            }
-            int order = text.addOrder(kind, tokenPlace);
-            readWhatFollows(text, order, kind);
-            if (kind == Text.AGAIN) {
-                readSign('{');
-                open[depth] = order;
-                depth++;
-            } else if (kind != Text.TURN) {
-                text.counts[order] = readNumber(1, 99);
+            } else {
+                order = text.addOrder(kind, tokenPlace);
+                wanted = wantedBehindWord(kind);
             }
         }
 
-        /** What stands between an ORDER's WORD and its counts, or the { of again. */
-        private void readWhatFollows(Text text, int order, int kind) {
+        private static int wantedBehindWord(int kind) {
             switch (kind) {
                 case Text.TURN:
-                    text.much[order] = readNumber(1, 7);
-                    break;
+                    return EIGHTHS;
                 case Text.WHEEL:
-                    text.much[order] = readSide();
-                    break;
+                    return A_SIDE;
                 case Text.OPEN:
                 case Text.CLOSE:
-                    text.much[order] = readNumber(2, 5);
-                    break;
+                    return TIMES;
                 case Text.SHIFT:
-                    text.much[order] = readWhole();
-                    text.northward[order] = readWhole();
-                    break;
+                    return EASTWARD;
                 case Text.AGAIN:
-                    text.much[order] = readNumber(2, 20);
+                    return OFTEN;
+                default:
+                    return COUNTS;
+            }
+        }
+
+        private void takeBrace() {
+            if (!isSign('{') || depth >= DEEPEST) {
+                fail(CANT_STAND);
+                return;
+            }
+            openAgains[depth] = order;
+            depth++;
+            wanted = AN_ORDER;
+        }
+
+        private void takeSide(Text text) {
+            if (token != WORD || (tokenValue != LEFT_WORD && tokenValue != RIGHT_WORD)) {
+                fail(CANT_STAND);
+                return;
+            }
+            text.much[order] = tokenValue == LEFT_WORD ? Text.LEFT : Text.RIGHT;
+            wanted = COUNTS;
+        }
+
+        private void takeNumber(Text text) {
+            boolean whole = wanted == EASTWARD || wanted == NORTHWARD;
+            if (whole && !minus && isSign('-')) {
+                minus = true;
+            } else if (token != NUMBER) {
+                fail(CANT_STAND);
+            } else if (!isWithin((int) tokenValue)) {
+                fail(CANT_BE);
+            } else {
+                keepNumber(text, minus ? -(int) tokenValue : (int) tokenValue);
+                minus = false;
+            }
+        }
+
+        private boolean isWithin(int number) {
+            switch (wanted) {
+                case EIGHTHS:
+                    return number >= 1 && number <= 7;
+                case TIMES:
+                    return number >= 2 && number <= 5;
+                case EASTWARD:
+                case NORTHWARD:
+                    return number <= 59;
+                case OFTEN:
+                    return number >= 2 && number <= 20;
+                default:
+                    return number >= 1 && number <= 99;
+            }
+        }
+
+        private void keepNumber(Text text, int number) {
+            switch (wanted) {
+                case EIGHTHS:
+                    text.much[order] = number;
+                    wanted = AN_ORDER;
+                    break;
+                case TIMES:
+                    text.much[order] = number;
+                    wanted = COUNTS;
+                    break;
+                case EASTWARD:
+                    text.much[order] = number;
+                    wanted = NORTHWARD;
+                    break;
+                case NORTHWARD:
+                    text.northward[order] = number;
+                    wanted = COUNTS;
+                    break;
+                case OFTEN:
+                    text.much[order] = number;
+                    wanted = A_BRACE;
                     break;
                 default:
+                    text.counts[order] = number;
+                    wanted = AN_ORDER;
                     break;
             }
-        }
-
-        private void readSign(int sign) {
-            nextToken();
-            if (isToken(SIGN) && tokenValue != sign) {
-                fail(CANT_STAND);
-            }
-        }
-
-        private int readSide() {
-            nextToken();
-            if (isToken(WORD) && tokenValue != LEFT_WORD && tokenValue != RIGHT_WORD) {
-                fail(CANT_STAND);
-            }
-            return tokenValue == LEFT_WORD ? Text.LEFT : Text.RIGHT;
-        }
-
-        private int readNumber(int least, int most) {
-            nextToken();
-            return numberWithin(least, most);
-        }
-
-        private int readWhole() {
-            nextToken();
-            if (!isSign('-')) {
-                return numberWithin(0, 59);
-            }
-            nextToken();
-            return -numberWithin(0, 59);
-        }
-
-        private int numberWithin(int least, int most) {
-            if (isToken(NUMBER) && (tokenValue < least || tokenValue > most)) {
-                fail(CANT_BE);
-            }
-            return (int) tokenValue;
         }
 
         private boolean isSign(int sign) {
             return token == SIGN && tokenValue == sign;
         }
 
-        /** Whether the TOKEN is of a kind that alone can stand here; a FAULT if it is not. */
-        private boolean isToken(int kind) {
-            if (token == BAD) {
-                fail(NO_TOKEN);
-            } else if (token != kind) {
-                fail(CANT_STAND);
-            }
-            return faultKind == 0;
-        }
-
-        /** The first FAULT stays: behind it the reading runs out without a look at the text. */
         private void fail(int kind) {
-            if (faultKind == 0) {
-                faultKind = kind;
-                faultPlace = tokenPlace;
-            }
+            faultKind = kind;
+            faultPlace = tokenPlace;
         }
 
         private void nextToken() {
-            if (faultKind != 0) {
-                return;
-            }
             skipBlanks();
             tokenPlace = cursor;
             tokenValue = 0;
@@ -992,7 +1048,7 @@ public final class DrillField {
     }
 
     /** A RUN: where each MARCHER is at each COUNT, and what can be seen from that. */
-    private static final class Record {
+    private static final class Course {
         static final int MOST_COUNTS = 150;
         private static final int WIDTH = Ground.MOST_MARCHERS;
 
@@ -1024,6 +1080,11 @@ public final class DrillField {
             return true;
         }
 
+        void turnFace(int count, int marcher, int eighths) {
+            int old = state[count * WIDTH + marcher];
+            state[count * WIDTH + marcher] = old & ~7 | old + eighths & 7;
+        }
+
         void copy(int fromCount, int fromMarcher, int count, int marcher) {
             state[count * WIDTH + marcher] = state[fromCount * WIDTH + fromMarcher];
         }
@@ -1045,11 +1106,11 @@ public final class DrillField {
         }
 
         int eastOf(int count, int marcher) {
-            return spotAt(count, marcher) / Ground.NORTHS;
+            return (state[count * WIDTH + marcher] >> 3) / Ground.NORTHS;
         }
 
         int northOf(int count, int marcher) {
-            return spotAt(count, marcher) % Ground.NORTHS;
+            return (state[count * WIDTH + marcher] >> 3) % Ground.NORTHS;
         }
 
         int faceOf(int count, int marcher) {
@@ -1225,7 +1286,7 @@ public final class DrillField {
             }
         }
 
-        /** A quarter more makes of north what it makes of east one quarter later. */
+        /** North is made what a quarter more makes east. */
         private int movedNorth(int count, int marcher, int way) {
             return movedEast(count, marcher, way & 4 | way + 1 & 3);
         }
@@ -1252,9 +1313,11 @@ public final class DrillField {
         }
     }
 
-    /** Steps all LINES of a TEXT into a Record, up to the first ERROR. */
+    /** Steps all LINES of a TEXT into a Course, up to the first ERROR. */
     private static final class Drill {
         private static final int MOST_DONE = 500;
+        /** Each ORDER done is a stride of the loop over a LINE, and so is each end of an again. */
+        private static final int MOST_STRIDES = 20 * MOST_DONE + 2 * MOST_DONE;
         private static final int TOO_MANY_DONE = 1;
         private static final int TOO_MANY_COUNTS = 2;
         private static final int NOT_WHOLE = 3;
@@ -1270,113 +1333,145 @@ public final class DrillField {
         private int size = 0;
         /** By MARCHER the COUNT up to which it is led. */
         private final int[] until = new int[Ground.MOST_MARCHERS];
+        /** Which again ORDERS are being done, and how often still. */
+        private final int[] again = new int[DEEPEST];
+        private final int[] left = new int[DEEPEST];
+        private int depth = 0;
         private int now = 0;
         private int done = 0;
         /** How many feet were taken since the beginning, or a halt: odd behind a left one. */
         private int feet = 0;
 
-        void stepThrough(Text text, Ground ground, Record record) {
+        void stepThrough(Text text, Ground ground, Course course) {
             errorKind = 0;
             errorPlace = NONE;
             Arrays.fill(until, 0);
-            record.begin(ground);
+            course.begin(ground);
             for (int line = 0; line < text.lines && errorKind == 0; line++) {
-                lead(text, line, record);
+                gather(text.lineBody[line], course.marchers);
+                doLine(text, course, text.lineBegin(line), text.lineEnd[line]);
+                for (int i = 0; i < size; i++) {
+                    until[body[i]] = now;
+                }
+                course.last = Math.max(course.last, now);
             }
             if (errorKind == 0) {
-                stayBehind(record);
-                record.made = true;
+                stayBehind(course);
+                course.made = true;
             }
         }
 
-        private void lead(Text text, int line, Record record) {
+        private void gather(int set, int marchers) {
             size = 0;
-            for (int m = 0; m < record.marchers; m++) {
-                if ((text.lineBody[line] >>> m & 1) != 0) {
+            for (int m = 0; m < marchers; m++) {
+                if ((set >>> m & 1) != 0) {
                     body[size] = m;
                     size++;
                 }
             }
+        }
+
+        private void stayBehind(Course course) {
+            for (int m = 0; m < course.marchers; m++) {
+                for (int count = until[m] + 1; count <= course.last; count++) {
+                    course.copy(until[m], m, count, m);
+                }
+            }
+        }
+
+        private void doLine(Text text, Course course, int from, int to) {
             now = 0;
             done = 0;
             feet = 0;
-            doOrders(text, record, text.lineBegin(line), text.lineEnd[line], 0);
-            for (int i = 0; i < size; i++) {
-                until[body[i]] = now;
-            }
-            record.last = Math.max(record.last, now);
-        }
-
-        private void stayBehind(Record record) {
-            for (int m = 0; m < record.marchers; m++) {
-                for (int count = until[m] + 1; count <= record.last; count++) {
-                    record.copy(until[m], m, count, m);
-                }
-            }
-        }
-
-        /** Recursion is as deep as again stands within again: the Reader refuses a fourth. */
-        private void doOrders(Text text, Record record, int from, int to, int depth) {
+            depth = 0;
             int order = from;
-            for (int guard = 0; guard < Text.MOST_ORDERS && order < to && errorKind == 0; guard++) {
-                done++;
-                if (done > MOST_DONE) {
-                    fail(TOO_MANY_DONE);
-                } else if (text.kind[order] != Text.AGAIN) {
-                    doOrder(text, record, order);
-                } else if (depth < DEEPEST) {
-                    for (int i = 0; i < text.much[order] && errorKind == 0; i++) {
-                        doOrders(text, record, order + 1, text.end[order], depth + 1);
+            for (int stride = 0; stride < MOST_STRIDES && errorKind == 0; stride++) {
+                if (depth > 0 && order == text.end[again[depth - 1]]) {
+                    order = behindRound(order);
+                } else if (order < to) {
+                    countOrder(text.counts[order]);
+                    if (errorKind == 0) {
+                        doOrder(text, course, order);
                     }
+                    if (errorKind != 0) {
+                        errorPlace = text.place[order];
+                    }
+                    order++;
+                } else {
+                    break;
                 }
-                // An ORDER within tells its own place: it is the one that has the ERROR.
-                if (errorKind != 0 && errorPlace == NONE) {
-                    errorPlace = text.place[order];
-                }
-                order = text.end[order];
             }
         }
 
-        private void doOrder(Text text, Record record, int order) {
+        /** Behind one round of the innermost again: back to its first ORDER, or on. */
+        private int behindRound(int order) {
+            left[depth - 1]--;
+            if (left[depth - 1] > 0) {
+                return again[depth - 1] + 1;
+            }
+            depth--;
+            return order;
+        }
+
+        private void countOrder(int counts) {
+            done++;
+            if (done > MOST_DONE) {
+                fail(TOO_MANY_DONE);
+            } else if (now + counts > Course.MOST_COUNTS) {
+                fail(TOO_MANY_COUNTS);
+            }
+        }
+
+        private void doOrder(Text text, Course course, int order) {
             int counts = text.counts[order];
             int much = text.much[order];
-            if (now + counts > Record.MOST_COUNTS) {
-                fail(TOO_MANY_COUNTS);
-                return;
-            }
             switch (text.kind[order]) {
                 case Text.GO:
-                    stepAhead(record, counts, 1);
+                    stepAhead(course, counts, 1);
                     break;
                 case Text.BACK:
-                    stepAhead(record, counts, -1);
+                    stepAhead(course, counts, -1);
                     break;
                 case Text.FOLLOW:
-                    followPivot(record, counts);
+                    followPivot(course, counts);
                     break;
                 case Text.TURN:
-                    turnAll(record, much);
+                    turnBody(course, much);
+                    judgeTurn(course, much);
                     break;
                 case Text.WHEEL:
-                    wheelAll(record, counts, much);
+                    aimWheel(course, much == Text.LEFT ? 1 : -1);
+                    slide(course, counts);
+                    turnBody(course, much == Text.LEFT ? -2 : 2);
                     break;
                 case Text.OPEN:
-                    aimOpen(record, much);
-                    slide(record, counts);
+                    aimOpen(course, much);
+                    slide(course, counts);
                     break;
                 case Text.CLOSE:
-                    aimClose(record, much);
-                    slide(record, counts);
+                    aimClose(course, much);
+                    slide(course, counts);
                     break;
                 case Text.SHIFT:
-                    aimShift(record, much, text.northward[order]);
-                    slide(record, counts);
+                    aimShift(course, much, text.northward[order]);
+                    slide(course, counts);
+                    break;
+                case Text.AGAIN:
+                    beginAgain(order, much);
                     break;
                 default:
-                    stepAhead(record, counts, 0);
+                    stepAhead(course, counts, 0);
                     break;
             }
             feet = text.kind[order] == Text.HALT ? 0 : feet + counts;
+        }
+
+        private void beginAgain(int order, int often) {
+            if (depth < DEEPEST) {
+                again[depth] = order;
+                left[depth] = often;
+                depth++;
+            }
         }
 
         private void fail(int kind) {
@@ -1385,123 +1480,106 @@ public final class DrillField {
             }
         }
 
-        private void put(Record record, int marcher, int east, int north, int face) {
-            if (!record.put(now, marcher, east, north, face)) {
+        /** Each count a step the way of the FACE times 1, -1 or (on the spot) 0. */
+        private void stepAhead(Course course, int counts, int way) {
+            for (int j = 0; j < counts && errorKind == 0; j++) {
+                now++;
+                for (int i = 0; i < size; i++) {
+                    stepOne(course, body[i], way);
+                }
+            }
+        }
+
+        private void stepOne(Course course, int marcher, int way) {
+            int face = course.faceOf(now - 1, marcher);
+            int east = course.eastOf(now - 1, marcher) + way * Ground.eastStep(face);
+            int north = course.northOf(now - 1, marcher) + way * Ground.northStep(face);
+            if (!course.put(now, marcher, east, north, face)) {
                 fail(OFF_GROUND);
             }
         }
 
-        /** Each count a step the way of the FACE times 1, -1 or (on the spot) 0. */
-        private void stepAhead(Record record, int counts, int way) {
-            for (int j = 0; j < counts && errorKind == 0; j++) {
-                now++;
-                for (int i = 0; i < size; i++) {
-                    stepOne(record, body[i], way);
-                }
-            }
-        }
-
-        private void stepOne(Record record, int marcher, int way) {
-            int face = record.faceOf(now - 1, marcher);
-            int east = record.eastOf(now - 1, marcher) + way * Ground.eastStep(face);
-            int north = record.northOf(now - 1, marcher) + way * Ground.northStep(face);
-            put(record, marcher, east, north, face);
-        }
-
-        private void followPivot(Record record, int counts) {
+        private void followPivot(Course course, int counts) {
             for (int j = 0; j < counts && errorKind == 0; j++) {
                 now++;
                 if (size > 0) {
-                    stepOne(record, body[0], 1);
+                    stepOne(course, body[0], 1);
                 }
                 for (int i = 1; i < size; i++) {
-                    record.copy(now - 1, body[i - 1], now, body[i]);
+                    course.copy(now - 1, body[i - 1], now, body[i]);
                 }
             }
         }
 
-        private void turnAll(Record record, int eighths) {
+        private void turnBody(Course course, int eighths) {
             for (int i = 0; i < size; i++) {
-                turnOne(record, body[i], eighths);
+                course.turnFace(now, body[i], eighths);
             }
+        }
+
+        private void judgeTurn(Course course, int eighths) {
             boolean behindLeft = (feet & 1) == 1;
             boolean well = feet == 0 || eighths == 4 || behindLeft == (eighths < 4);
-            record.turnsNotWell += well ? 0 : 1;
+            course.turnsNotWell += well ? 0 : 1;
         }
 
-        private void turnOne(Record record, int marcher, int eighths) {
-            int east = record.eastOf(now, marcher);
-            int north = record.northOf(now, marcher);
-            put(record, marcher, east, north, record.faceOf(now, marcher) + eighths);
-        }
-
-        private void wheelAll(Record record, int counts, int side) {
-            int sign = side == Text.LEFT ? 1 : -1;
+        /** A quarter turn, times 1 against the clock, times -1 with it. */
+        private void aimWheel(Course course, int sign) {
             for (int i = 0; i < size; i++) {
-                aimEast[i] = pivotEast(record) - sign * northFromPivot(record, i);
-                aimNorth[i] = pivotNorth(record) + sign * eastFromPivot(record, i);
-            }
-            slide(record, counts);
-            for (int i = 0; i < size && errorKind == 0; i++) {
-                turnOne(record, body[i], -2 * sign);
+                aimEast[i] = course.eastOf(now, body[0]) - sign * northFromPivot(course, i);
+                aimNorth[i] = course.northOf(now, body[0]) + sign * eastFromPivot(course, i);
             }
         }
 
-        private void aimOpen(Record record, int times) {
+        private void aimOpen(Course course, int times) {
             for (int i = 0; i < size; i++) {
-                aimEast[i] = pivotEast(record) + times * eastFromPivot(record, i);
-                aimNorth[i] = pivotNorth(record) + times * northFromPivot(record, i);
+                aimEast[i] = course.eastOf(now, body[0]) + times * eastFromPivot(course, i);
+                aimNorth[i] = course.northOf(now, body[0]) + times * northFromPivot(course, i);
             }
         }
 
-        private void aimClose(Record record, int times) {
+        private void aimClose(Course course, int times) {
             if (times < 1) {
                 return;
             }
             for (int i = 0; i < size; i++) {
-                int east = eastFromPivot(record, i);
-                int north = northFromPivot(record, i);
+                int east = eastFromPivot(course, i);
+                int north = northFromPivot(course, i);
                 if (east % times != 0 || north % times != 0) {
                     fail(NOT_WHOLE);
                 }
-                aimEast[i] = pivotEast(record) + east / times;
-                aimNorth[i] = pivotNorth(record) + north / times;
+                aimEast[i] = course.eastOf(now, body[0]) + east / times;
+                aimNorth[i] = course.northOf(now, body[0]) + north / times;
             }
         }
 
-        private void aimShift(Record record, int east, int north) {
+        private void aimShift(Course course, int east, int north) {
             for (int i = 0; i < size; i++) {
-                aimEast[i] = record.eastOf(now, body[i]) + east;
-                aimNorth[i] = record.northOf(now, body[i]) + north;
+                aimEast[i] = course.eastOf(now, body[i]) + east;
+                aimNorth[i] = course.northOf(now, body[i]) + north;
             }
         }
 
-        private int pivotEast(Record record) {
-            return record.eastOf(now, body[0]);
+        private int eastFromPivot(Course course, int i) {
+            return course.eastOf(now, body[i]) - course.eastOf(now, body[0]);
         }
 
-        private int pivotNorth(Record record) {
-            return record.northOf(now, body[0]);
-        }
-
-        private int eastFromPivot(Record record, int i) {
-            return record.eastOf(now, body[i]) - pivotEast(record);
-        }
-
-        private int northFromPivot(Record record, int i) {
-            return record.northOf(now, body[i]) - pivotNorth(record);
+        private int northFromPivot(Course course, int i) {
+            return course.northOf(now, body[i]) - course.northOf(now, body[0]);
         }
 
         /** The whole BODY goes straight to its aims. */
-        private void slide(Record record, int counts) {
+        private void slide(Course course, int counts) {
             int start = now;
             for (int j = 1; j <= counts && errorKind == 0; j++) {
                 now++;
                 for (int i = 0; i < size; i++) {
                     int m = body[i];
-                    int east = between(record.eastOf(start, m), aimEast[i], j, counts);
-                    int north = between(record.northOf(start, m), aimNorth[i], j, counts);
-                    put(record, m, east, north, record.faceOf(start, m));
+                    int east = between(course.eastOf(start, m), aimEast[i], j, counts);
+                    int north = between(course.northOf(start, m), aimNorth[i], j, counts);
+                    if (!course.put(now, m, east, north, course.faceOf(start, m))) {
+                        fail(OFF_GROUND);
+                    }
                 }
             }
         }
@@ -1663,7 +1741,7 @@ public final class DrillField {
 
         /** What path() found latest; the length is NONE ahead of any. */
         int length = NONE;
-        byte[] moves = null;
+        private byte[] moves = null;
 
         /** By north, a bit for each east that one must not step on. */
         private final long[] barred = new long[Ground.NORTHS];
@@ -1692,6 +1770,11 @@ public final class DrillField {
                 visit(turned(state, -1), TO_LEFT);
             }
             return false;
+        }
+
+        /** The k-th move of the PATH found latest, or NONE. */
+        int moveAt(int k) {
+            return moves == null || k < 0 || k >= length ? NONE : moves[k];
         }
 
         /** These rows are the greatest of all: an object that never asks for a PATH has none. */
@@ -1895,10 +1978,10 @@ public final class DrillField {
             int asked = barred;
             for (int head = 0; head < waiting; head++) {
                 int marcher = queue[head];
-                int open = can[marcher] & ~asked;
-                asked |= open;
+                int askable = can[marcher] & ~asked;
+                asked |= askable;
                 for (int p = 0; p < persons; p++) {
-                    if ((open >>> p & 1) != 0) {
+                    if ((askable >>> p & 1) != 0) {
                         askedBy[p] = marcher;
                         if (partOf[p] == NONE) {
                             handOn(p);
