@@ -74,31 +74,38 @@ public final class FigureTest {
         Due.fine(none, "like(0, 0) of none", none.like(0, 0), 0);
     }
 
-    /** A figure with no likeness to itself, brought to each of its eight ways. */
+    /** A figure with no likeness to itself, brought to each of its eight ways, by each in turn. */
     private static void likeWays() {
-        int[][] spots = {{0, 0}, {1, 0}, {2, 0}, {0, 5}};
         for (int way = 0; way < 8; way++) {
-            DrillField x = new DrillField();
-            StringBuilder text = new StringBuilder();
-            for (int i = 0; i < 4; i++) {
-                int east = spots[i][0];
-                int north = spots[i][1];
-                x.marcher(20 + east, 20 + north, 0);
-                x.group(i + 1, 1 << i);
-                east = way >= 4 ? -east : east;
-                for (int quarter = 0; quarter < way % 4; quarter++) {
-                    int old = east;
-                    east = north;
-                    north = -old;
-                }
-                text.append((char) ('a' + i)).append(": shift ").append(east - spots[i][0] + 2)
-                        .append(' ').append(north - spots[i][1] - 3).append(" 1;");
+            for (int next = 0; next < 4; next++) {
+                likeWay(way, next);
             }
-            Due.is("run", Due.runOf(x, text.toString()), 1);
-            Due.fine(x, "like(0, 1) by way " + way, x.like(0, 1), way);
-            int back = way == 1 ? 3 : way == 3 ? 1 : way;
-            Due.fine(x, "like(1, 0) by way " + way, x.like(1, 0), back);
         }
+    }
+
+    /** MARCHER i goes to where the SPOT of the one so many behind it is moved. */
+    private static void likeWay(int way, int next) {
+        int[][] spots = {{0, 0}, {1, 0}, {2, 0}, {0, 5}};
+        DrillField x = new DrillField();
+        StringBuilder text = new StringBuilder();
+        for (int i = 0; i < 4; i++) {
+            x.marcher(20 + spots[i][0], 20 + spots[i][1], 0);
+            x.group(i + 1, 1 << i);
+            int[] spot = spots[(i + next) % 4];
+            int east = way >= 4 ? -spot[0] : spot[0];
+            int north = spot[1];
+            for (int quarter = 0; quarter < way % 4; quarter++) {
+                int old = east;
+                east = north;
+                north = -old;
+            }
+            text.append((char) ('a' + i)).append(": shift ").append(east - spots[i][0] + 2)
+                    .append(' ').append(north - spots[i][1] - 3).append(" 1;");
+        }
+        Due.is("run", Due.runOf(x, text.toString()), 1);
+        Due.fine(x, "like(0, 1) by way " + way, x.like(0, 1), way);
+        int back = way == 1 ? 3 : way == 3 ? 1 : way;
+        Due.fine(x, "like(1, 0) by way " + way, x.like(1, 0), back);
     }
 
     private static void seen() {

@@ -105,6 +105,14 @@ public final class GoesTest {
         Due.fine(u, "goes(0, 2, 4)", u.goes(0, 2, 4), 10);
         Due.fine(u, "spotOf(0)", u.spotOf(0), 0);
         Due.fine(u, "spotOf(NONE)", u.spotOf(-1), 15);
+        // 4 and 5 meet on one SPOT, another 5 by an exchange in the first count.
+        DrillField s = field(13, 11, 13, 12, 13, 13);
+        lay(s, 0, 2, 12, 13, 11, 13, 13, 10);
+        Due.fine(s, "goes(0, 3, 3)", s.goes(0, 3, 3), 8);
+        Due.fine(s, "spotOf(0)", s.spotOf(0), 1);
+        Due.fine(s, "spotOf(1)", s.spotOf(1), 2);
+        Due.fine(s, "spotOf(2)", s.spotOf(2), 0);
+        Due.fine(s, "spotOf(NONE)", s.spotOf(-1), 13);
         DrillField t = field(11, 12, 12, 12);
         lay(t, 0, 2, 12, 13, 12, 14);
         Due.refused(t, "goes(0, 2, 4): both ways meet", t.goes(0, 2, 4), 8);

@@ -116,6 +116,8 @@ public final class RosterTest {
         fillers(field(3), 0, 0, -1, -1, -1);
         fillers(field(0), 0, 0);
         fillers(field(3, 0b111, 0b111, 0b111), 0, 0, 0, 1, 2);
+        // A lesser PERSON comes free only when a MARCHER ahead is settled.
+        fillers(field(5, 0b01001, 0b10010, 0b01100, 0b00011, 0b00110, 0b00100), 0, 0, 0, 3, 4, 2, 1);
         fillers(field(4, 0b1001, 0b0001, 0b0110, 0b0010), 0, 0, 1, 3, 2, 0);
     }
 

@@ -164,6 +164,8 @@ public final class RunTest {
         place(x, 21, 0, 20, 23, 0);
         Due.is("empty ones", Due.runOf(x, "a: again 20 { again 2 { again 2 { } } } go 1;"), 1);
         place(x, 1, 0, 20, 21, 0);
+        Due.is("many empty ones", Due.runOf(x, "a: again 20 { again 20 { again 20 { } } } go 1;"), 1);
+        place(x, 1, 0, 20, 21, 0);
         Due.is("empty at the end", Due.runOf(x, "a: go 1 again 2 { go 1 again 20 { } };"), 3);
         Due.is("one behind another", Due.runOf(x, "a: again 2 { go 1 } again 3 { go 1 };"), 5);
     }
@@ -321,6 +323,15 @@ public final class RunTest {
         Due.fine(x, "told(2) above 4", x.told(2), 2);
         x.steps(25);
         Due.fine(x, "told(2) above 25", x.told(2), 0);
+        DrillField z = field(10, 10, 2, 30, 30, 2);
+        z.group(2, 1);
+        Due.is("run", Due.runOf(z, "b: shift 5 0 1 mark 1;"), 2);
+        Due.fine(z, "told(4): MARCHER 0's in the first count", z.told(4), 25);
+        Due.is("run", Due.runOf(z, "b: mark 1 turn 7; a: shift -6 0 1;"), 1);
+        Due.fine(z, "told(4): the last MARCHER's in the last count", z.told(4), 36);
+        Due.fine(z, "told(3)", z.told(3), 1);
+        Due.is("run", Due.runOf(z, "b: go 1;"), 1);
+        Due.fine(z, "told(3) of the next RUN", z.told(3), 0);
         DrillField y = field(10, 10, 2);
         Due.is("run of no counts", Due.runOf(y, ""), 0);
         Due.fine(y, "told(4)", y.told(4), 0);

@@ -77,6 +77,11 @@ public final class ScoresTest {
         marks(x, 0, 1, -1, -1, -1, -1, -1, -1, 50, 60);
         // two are left
         total(x, 0, 15 + 110 + 132, 1);
+        marks(x, 2, 0, 0, 0, 0);
+        marks(x, 2, 1, 100, 100, 100);
+        marks(x, 2, 2, 100, 0, 100);
+        // 0, 2 x 100, 9 x 100
+        total(x, 2, 1100, 1);
         DrillField y = new DrillField();
         for (int trait = 0; trait < 3; trait++) {
             marks(y, 3, trait, 100, 100, 100, 100, 100, 100, 100, 100, 100);
