@@ -17,25 +17,8 @@ public final class RunTest {
         Due.end("RunTest");
     }
 
-    /** MARCHERS by their east, north, face, and a GROUP a of them all. */
-    private static DrillField field(int... places) {
-        DrillField x = new DrillField();
-        for (int i = 0; i + 2 < places.length; i += 3) {
-            x.marcher(places[i], places[i + 1], places[i + 2]);
-        }
-        x.group(1, (1 << places.length / 3) - 1);
-        return x;
-    }
-
-    private static void place(DrillField x, int count, int marcher, int east, int north, int face) {
-        String at = "at(" + count + ", " + marcher + ", ";
-        Due.fine(x, at + "0)", x.at(count, marcher, 0), east);
-        Due.fine(x, at + "1)", x.at(count, marcher, 1), north);
-        Due.fine(x, at + "2)", x.at(count, marcher, 2), face);
-    }
-
     private static void statuses() {
-        DrillField x = field(10, 10, 0);
+        DrillField x = Due.field(10, 10, 0);
         Due.refused(x, "run() without a TEXT", x.run(), 8);
         Due.is("error(0)", x.error(0), -1);
         Due.refused(x, "at(9, 9, 9): 8 first", x.at(9, 9, 9), 8);
@@ -59,7 +42,7 @@ public final class RunTest {
         x.marcher(11, 10, 0);
         Due.refused(x, "at(0, 1, 0): was not there", x.at(0, 1, 0), 2);
         Due.fine(x, "run()", x.run(), 2);
-        place(x, 2, 1, 11, 10, 0);
+        Due.place(x, 2, 1, 11, 10, 0);
         Due.refused(x, "clash(0, 0): none such", x.clash(0, 0), 8);
         Due.refused(x, "clash(-1, 0): none such", x.clash(-1, 0), 8);
     }
@@ -68,127 +51,127 @@ public final class RunTest {
         int[] east = {0, 1, 1, 1, 0, -1, -1, -1};
         int[] north = {1, 1, 0, -1, -1, -1, 0, 1};
         for (int face = 0; face < 8; face++) {
-            DrillField x = field(20, 20, face);
+            DrillField x = Due.field(20, 20, face);
             Due.is("run", Due.runOf(x, "a: go 3 mark 1 back 5 halt 1;"), 10);
-            place(x, 0, 0, 20, 20, face);
-            place(x, 1, 0, 20 + east[face], 20 + north[face], face);
-            place(x, 3, 0, 20 + 3 * east[face], 20 + 3 * north[face], face);
-            place(x, 4, 0, 20 + 3 * east[face], 20 + 3 * north[face], face);
-            place(x, 9, 0, 20 - 2 * east[face], 20 - 2 * north[face], face);
-            place(x, 10, 0, 20 - 2 * east[face], 20 - 2 * north[face], face);
+            Due.place(x, 0, 0, 20, 20, face);
+            Due.place(x, 1, 0, 20 + east[face], 20 + north[face], face);
+            Due.place(x, 3, 0, 20 + 3 * east[face], 20 + 3 * north[face], face);
+            Due.place(x, 4, 0, 20 + 3 * east[face], 20 + 3 * north[face], face);
+            Due.place(x, 9, 0, 20 - 2 * east[face], 20 - 2 * north[face], face);
+            Due.place(x, 10, 0, 20 - 2 * east[face], 20 - 2 * north[face], face);
         }
     }
 
     private static void followAndTurn() {
-        DrillField x = field(10, 10, 2, 8, 9, 0, 5, 5, 4);
+        DrillField x = Due.field(10, 10, 2, 8, 9, 0, 5, 5, 4);
         Due.is("run", Due.runOf(x, "a: follow 1 turn 2 follow 2;"), 3);
-        place(x, 1, 0, 11, 10, 4);
-        place(x, 1, 1, 10, 10, 4);
-        place(x, 1, 2, 8, 9, 2);
-        place(x, 2, 0, 11, 9, 4);
-        place(x, 2, 1, 11, 10, 4);
-        place(x, 2, 2, 10, 10, 4);
-        place(x, 3, 0, 11, 8, 4);
-        place(x, 3, 2, 11, 10, 4);
-        DrillField y = field(10, 10, 6);
+        Due.place(x, 1, 0, 11, 10, 4);
+        Due.place(x, 1, 1, 10, 10, 4);
+        Due.place(x, 1, 2, 8, 9, 2);
+        Due.place(x, 2, 0, 11, 9, 4);
+        Due.place(x, 2, 1, 11, 10, 4);
+        Due.place(x, 2, 2, 10, 10, 4);
+        Due.place(x, 3, 0, 11, 8, 4);
+        Due.place(x, 3, 2, 11, 10, 4);
+        DrillField y = Due.field(10, 10, 6);
         Due.is("turns at the beginning are told with COUNT 0", Due.runOf(y, "a: turn 3 turn 6 go 1;"), 1);
-        place(y, 0, 0, 10, 10, 7);
-        place(y, 1, 0, 9, 11, 7);
+        Due.place(y, 0, 0, 10, 10, 7);
+        Due.place(y, 1, 0, 9, 11, 7);
         Due.is("turns alone", Due.runOf(y, "a: turn 7;"), 0);
-        place(y, 0, 0, 10, 10, 5);
+        Due.place(y, 0, 0, 10, 10, 5);
     }
 
     private static void wheels() {
-        DrillField x = field(20, 20, 7, 23, 21, 1);
+        DrillField x = Due.field(20, 20, 7, 23, 21, 1);
         Due.is("run", Due.runOf(x, "a: wheel left 3;"), 3);
         // from 3, 1 of the PIVOT to -1, 3: a third and two of the way.
-        place(x, 0, 1, 23, 21, 1);
-        place(x, 1, 1, 22, 22, 1);
-        place(x, 2, 1, 20, 22, 1);
-        place(x, 3, 1, 19, 23, 7);
-        place(x, 2, 0, 20, 20, 7);
-        place(x, 3, 0, 20, 20, 5);
+        Due.place(x, 0, 1, 23, 21, 1);
+        Due.place(x, 1, 1, 22, 22, 1);
+        Due.place(x, 2, 1, 20, 22, 1);
+        Due.place(x, 3, 1, 19, 23, 7);
+        Due.place(x, 2, 0, 20, 20, 7);
+        Due.place(x, 3, 0, 20, 20, 5);
         Due.is("run", Due.runOf(x, "a: wheel right 2;"), 2);
         // to 1, -3: half of the way is 2, -1.
-        place(x, 1, 1, 22, 19, 1);
-        place(x, 2, 1, 21, 17, 3);
-        place(x, 2, 0, 20, 20, 1);
-        DrillField y = field(20, 20, 0, 21, 22, 0);
+        Due.place(x, 1, 1, 22, 19, 1);
+        Due.place(x, 2, 1, 21, 17, 3);
+        Due.place(x, 2, 0, 20, 20, 1);
+        DrillField y = Due.field(20, 20, 0, 21, 22, 0);
         Due.is("run", Due.runOf(y, "a: wheel left 2;"), 2);
         // from 1, 2 to -2, 1: -0.5, 1.5 by halves up are 0, 2.
-        place(y, 1, 1, 20, 22, 0);
+        Due.place(y, 1, 1, 20, 22, 0);
     }
 
     private static void openCloseShift() {
-        DrillField x = field(20, 20, 0, 21, 18, 3);
+        DrillField x = Due.field(20, 20, 0, 21, 18, 3);
         Due.is("run", Due.runOf(x, "a: open 4 2 close 2 1 close 2 4;"), 7);
         // from 1, -2 to 4, -8: half of the way is 2.5, -5.
-        place(x, 1, 1, 23, 15, 3);
-        place(x, 2, 1, 24, 12, 3);
-        place(x, 3, 1, 22, 16, 3);
+        Due.place(x, 1, 1, 23, 15, 3);
+        Due.place(x, 2, 1, 24, 12, 3);
+        Due.place(x, 3, 1, 22, 16, 3);
         // from 2, -4 to 1, -2 by quarters.
-        place(x, 4, 1, 22, 17, 3);
-        place(x, 5, 1, 22, 17, 3);
-        place(x, 6, 1, 21, 18, 3);
-        place(x, 7, 1, 21, 18, 3);
-        place(x, 7, 0, 20, 20, 0);
-        DrillField y = field(20, 20, 5, 30, 30, 2);
+        Due.place(x, 4, 1, 22, 17, 3);
+        Due.place(x, 5, 1, 22, 17, 3);
+        Due.place(x, 6, 1, 21, 18, 3);
+        Due.place(x, 7, 1, 21, 18, 3);
+        Due.place(x, 7, 0, 20, 20, 0);
+        DrillField y = Due.field(20, 20, 5, 30, 30, 2);
         Due.is("run", Due.runOf(y, "a: shift 3 -3 2 shift - 20 0 3 shift 0 -0 1;"), 6);
-        place(y, 1, 0, 22, 19, 5);
-        place(y, 2, 0, 23, 17, 5);
-        place(y, 1, 1, 32, 29, 2);
-        place(y, 3, 0, 16, 17, 5);
-        place(y, 4, 0, 10, 17, 5);
-        place(y, 5, 0, 3, 17, 5);
-        place(y, 6, 0, 3, 17, 5);
-        DrillField z = field(0, 0, 0, 59, 39, 0);
+        Due.place(y, 1, 0, 22, 19, 5);
+        Due.place(y, 2, 0, 23, 17, 5);
+        Due.place(y, 1, 1, 32, 29, 2);
+        Due.place(y, 3, 0, 16, 17, 5);
+        Due.place(y, 4, 0, 10, 17, 5);
+        Due.place(y, 5, 0, 3, 17, 5);
+        Due.place(y, 6, 0, 3, 17, 5);
+        DrillField z = Due.field(0, 0, 0, 59, 39, 0);
         Due.is("to the edges", Due.runOf(z, "a: shift 0 0 1;"), 1);
         z.group(2, 1);
         z.group(3, 2);
         Due.is("to the corners", Due.runOf(z, "b: shift 59 39 99; c: shift -59 -39 1;"), 99);
-        place(z, 99, 0, 59, 39, 0);
-        place(z, 1, 1, 0, 0, 0);
-        place(z, 99, 1, 0, 0, 0);
+        Due.place(z, 99, 0, 59, 39, 0);
+        Due.place(z, 1, 1, 0, 0, 0);
+        Due.place(z, 99, 1, 0, 0, 0);
         // 59 / 99 is 0.60, 39 / 99 is 0.39.
-        place(z, 1, 0, 1, 0, 0);
+        Due.place(z, 1, 0, 1, 0, 0);
     }
 
     private static void again() {
-        DrillField x = field(20, 20, 0);
+        DrillField x = Due.field(20, 20, 0);
         Due.is("run", Due.runOf(x, "a: again 4 { go 2 turn 2 };"), 8);
-        place(x, 4, 0, 22, 22, 4);
-        place(x, 8, 0, 20, 20, 0);
+        Due.place(x, 4, 0, 22, 22, 4);
+        Due.place(x, 8, 0, 20, 20, 0);
         Due.is("within", Due.runOf(x, "a: again 2 { again 3 { again 2 { mark 1 } halt 1 } go 1 } go 1;"), 21);
-        place(x, 9, 0, 20, 20, 0);
-        place(x, 10, 0, 20, 21, 0);
-        place(x, 21, 0, 20, 23, 0);
+        Due.place(x, 9, 0, 20, 20, 0);
+        Due.place(x, 10, 0, 20, 21, 0);
+        Due.place(x, 21, 0, 20, 23, 0);
         Due.is("empty ones", Due.runOf(x, "a: again 20 { again 2 { again 2 { } } } go 1;"), 1);
-        place(x, 1, 0, 20, 21, 0);
+        Due.place(x, 1, 0, 20, 21, 0);
         Due.is("many empty ones", Due.runOf(x, "a: again 20 { again 20 { again 20 { } } } go 1;"), 1);
-        place(x, 1, 0, 20, 21, 0);
+        Due.place(x, 1, 0, 20, 21, 0);
         Due.is("empty at the end", Due.runOf(x, "a: go 1 again 2 { go 1 again 20 { } };"), 3);
         Due.is("one behind another", Due.runOf(x, "a: again 2 { go 1 } again 3 { go 1 };"), 5);
     }
 
     private static void linesAndBodies() {
-        DrillField x = field(10, 10, 0, 12, 10, 0, 14, 10, 0);
+        DrillField x = Due.field(10, 10, 0, 12, 10, 0, 14, 10, 0);
         x.group(2, 3);
         x.group(3, 6);
         Due.fine(x, "orders", Due.tell(x, "c: go 2; b: shift 0 -2 1 wheel left 1; a: go 9;"), 4);
         x.group(2, 4);
         x.group(4, 1);
         Due.fine(x, "run(): by GROUPS as they were", x.run(), 9);
-        place(x, 2, 1, 12, 12, 0);
-        place(x, 9, 1, 12, 12, 0);
-        place(x, 9, 2, 14, 12, 0);
-        place(x, 1, 0, 10, 8, 0);
-        place(x, 2, 0, 10, 8, 6);
-        place(x, 9, 0, 10, 8, 6);
+        Due.place(x, 2, 1, 12, 12, 0);
+        Due.place(x, 9, 1, 12, 12, 0);
+        Due.place(x, 9, 2, 14, 12, 0);
+        Due.place(x, 1, 0, 10, 8, 0);
+        Due.place(x, 2, 0, 10, 8, 6);
+        Due.place(x, 9, 0, 10, 8, 6);
         Due.fine(x, "a BODY of none still has counts", Due.tell(x, "a: mark 1; d: follow 1 wheel left 1 open 2 1 close 3 1 go 40;"), 6);
         Due.fine(x, "run()", x.run(), 44);
-        place(x, 44, 0, 10, 10, 0);
+        Due.place(x, 44, 0, 10, 10, 0);
         Due.fine(x, "who is in no GROUP stays", Due.runOf(x, "d: go 1;"), 1);
-        place(x, 1, 1, 12, 10, 0);
+        Due.place(x, 1, 1, 12, 10, 0);
     }
 
     private static void feet() {
@@ -201,7 +184,7 @@ public final class RunTest {
             {"a: again 5 { mark 1 turn 1 };", 2}, {"a: mark 1; b: turn 7;", 0}, {"a: mark 1; b: mark 1 turn 7;", 1},
             {"a: mark 1 turn 7; b: again 2 { mark 1 turn 7 };", 2}, {"a: go 3 close 2 3 turn 3;", 1}};
         for (Object[] t : texts) {
-            DrillField x = field(20, 20, 0, 22, 22, 0);
+            DrillField x = Due.field(20, 20, 0, 22, 22, 0);
             x.group(2, 2);
             Due.is("run of " + t[0], Due.runOf(x, (String) t[0]) < 0 ? -1 : 0, 0);
             Due.fine(x, "told(3) of " + t[0], x.told(3), (Integer) t[1]);
@@ -232,7 +215,7 @@ public final class RunTest {
             {"a: again 19 { again 12 { turn 1 turn 1 } } again 20 { turn 1 } turn 1 turn 1 turn 1 again 2 { };", 1, 84},
             {"a: again 19 { again 12 { turn 1 turn 1 } } again 20 { turn 1 } turn 1 turn 1 turn 1 mark 99;", 1, 84}};
         for (Object[] t : texts) {
-            DrillField x = field(20, 20, 0, 23, 20, 0);
+            DrillField x = Due.field(20, 20, 0, 23, 20, 0);
             String text = (String) t[0];
             Due.is("orders of " + text, Due.tell(x, text) < 0 ? -1 : 0, 0);
             int want = (Integer) t[1];
@@ -246,7 +229,7 @@ public final class RunTest {
     }
 
     private static void lineByLine() {
-        DrillField x = field(20, 20, 0, 23, 20, 0);
+        DrillField x = Due.field(20, 20, 0, 23, 20, 0);
         x.group(2, 2);
         Due.is("orders", Due.tell(x, "b: mark 90 go 20; a: close 2 1 go 99;"), 4);
         Due.refused(x, "run()", x.run(), 10);
@@ -261,14 +244,14 @@ public final class RunTest {
     }
 
     private static void errorLeavesRun() {
-        DrillField x = field(20, 20, 0, 20, 20, 2);
+        DrillField x = Due.field(20, 20, 0, 20, 20, 2);
         Due.is("run", Due.runOf(x, "a: go 4;"), 4);
         Due.is("orders", Due.tell(x, "a: mark 2 turn 1 go 30;"), 3);
         Due.refused(x, "run()", x.run(), 10);
         Due.is("error(0)", x.error(0), 4);
         Due.is("error(1)", x.error(1), 17);
-        place(x, 4, 0, 20, 24, 0);
-        place(x, 0, 1, 20, 20, 2);
+        Due.place(x, 4, 0, 20, 24, 0);
+        Due.place(x, 0, 1, 20, 20, 2);
         Due.fine(x, "told(3)", x.told(3), 0);
         Due.fine(x, "told(0)", x.told(0), 1);
         Due.refused(x, "at(5, 0, 0)", x.at(5, 0, 0), 2);
@@ -277,7 +260,7 @@ public final class RunTest {
         Due.is("run", Due.runOf(x, "a: go 1;"), 1);
         Due.is("error(0)", x.error(0), 0);
         Due.is("error(1)", x.error(1), -1);
-        DrillField y = field(20, 20, 0);
+        DrillField y = Due.field(20, 20, 0);
         Due.is("orders", Due.tell(y, "a: go 30;"), 1);
         Due.refused(y, "run()", y.run(), 10);
         Due.refused(y, "at(0, 0, 0): no RUN", y.at(0, 0, 0), 8);
@@ -286,7 +269,7 @@ public final class RunTest {
 
     private static void clashes() {
         // 0 and 1 meet, 2 and 3 exchange, 4 and 5 begin on one SPOT, 6 goes where 4 was.
-        DrillField x = field(10, 10, 2, 12, 10, 6, 10, 20, 1, 11, 21, 5, 30, 30, 0, 30, 30, 2, 30, 29, 0);
+        DrillField x = Due.field(10, 10, 2, 12, 10, 6, 10, 20, 1, 11, 21, 5, 30, 30, 0, 30, 30, 2, 30, 29, 0);
         Due.is("run", Due.runOf(x, "a: go 2;"), 2);
         Due.fine(x, "told(0)", x.told(0), 3);
         int[][] want = {{0, 4, 5}, {1, 0, 1}, {1, 2, 3}};
@@ -298,7 +281,7 @@ public final class RunTest {
         Due.refused(x, "clash(3, 0)", x.clash(3, 0), 8);
         Due.refused(x, "clash(2147483647, 0)", x.clash(Integer.MAX_VALUE, 0), 8);
         Due.refused(x, "clash(-2147483648, 0)", x.clash(Integer.MIN_VALUE, 0), 8);
-        DrillField y = field(10, 10, 0, 10, 10, 0, 10, 10, 0);
+        DrillField y = Due.field(10, 10, 0, 10, 10, 0, 10, 10, 0);
         Due.is("run", Due.runOf(y, "a: mark 2;"), 2);
         Due.fine(y, "told(0): three pairs at three COUNTS", y.told(0), 9);
         Due.fine(y, "clash(4, 0)", y.clash(4, 0), 1);
@@ -309,7 +292,7 @@ public final class RunTest {
     }
 
     private static void hitsAndLongSteps() {
-        DrillField x = field(10, 10, 2, 10, 10, 1);
+        DrillField x = Due.field(10, 10, 2, 10, 10, 1);
         x.prop(10, 10);
         x.prop(12, 10);
         Due.is("run", Due.runOf(x, "a: go 2 shift 0 3 2 shift 3 4 1;"), 5);
@@ -323,7 +306,7 @@ public final class RunTest {
         Due.fine(x, "told(2) above 4", x.told(2), 2);
         x.steps(25);
         Due.fine(x, "told(2) above 25", x.told(2), 0);
-        DrillField z = field(10, 10, 2, 30, 30, 2);
+        DrillField z = Due.field(10, 10, 2, 30, 30, 2);
         z.group(2, 1);
         Due.is("run", Due.runOf(z, "b: shift 5 0 1 mark 1;"), 2);
         Due.fine(z, "told(4): MARCHER 0's in the first count", z.told(4), 25);
@@ -332,7 +315,7 @@ public final class RunTest {
         Due.fine(z, "told(3)", z.told(3), 1);
         Due.is("run", Due.runOf(z, "b: go 1;"), 1);
         Due.fine(z, "told(3) of the next RUN", z.told(3), 0);
-        DrillField y = field(10, 10, 2);
+        DrillField y = Due.field(10, 10, 2);
         Due.is("run of no counts", Due.runOf(y, ""), 0);
         Due.fine(y, "told(4)", y.told(4), 0);
         Due.fine(y, "told(2)", y.told(2), 0);
