@@ -11,6 +11,7 @@ public final class FigureEdgeTest {
         hits();
         longSteps();
         greatestStep();
+        twentyIn150();
         dressedAsked();
         dressedWithFew();
         dressedEastAndNorth();
@@ -210,6 +211,33 @@ public final class FigureEdgeTest {
         Due.fine(x, "told(4) over all the ground", x.told(4), 59 * 59 + 39 * 39);
         Due.is("run", Due.runOf(x, "b: mark 5 shift -1 -2 1;"), 6);
         Due.fine(x, "told(4) in the last count", x.told(4), 5);
+        x.group(2, 0b01);
+        Due.is("run", Due.runOf(x, "b: mark 5 shift 1 2 1;"), 6);
+        Due.fine(x, "told(4) of MARCHER 0", x.told(4), 5);
+    }
+
+    private static void twentyIn150() {
+        Due.says("MARCHERS, at most 20");
+        DrillField x = new DrillField();
+        for (int i = 0; i < 20; i++) {
+            x.marcher(i, 20, 0);
+        }
+        x.group(1, (1 << 20) - 1);
+        x.prop(0, 20);
+        x.prop(19, 23);
+        Due.is("run", Due.runOf(x, "a: mark 99 mark 49 shift 0 3 1 shift 0 -3 1;"), 150);
+        Due.fine(x, "told(0)", x.told(0), 0);
+        Due.fine(x, "told(1): MARCHER 0 at 150 COUNTS, MARCHER 19 at one", x.told(1), 151);
+        Due.fine(x, "told(2): twenty, twice", x.told(2), 40);
+        Due.fine(x, "told(4)", x.told(4), 9);
+        Due.fine(x, "dressed(0, 150)", x.dressed(0, 150), 1);
+        Due.fine(x, "like(0, 150)", x.like(0, 150), 0);
+        Due.fine(x, "seen(150, 0, 40)", x.seen(150, 0, 40), 20);
+        Due.is("run of a count", Due.runOf(x, "a: mark 1;"), 1);
+        Due.fine(x, "told(4)", x.told(4), 0);
+        Due.is("run of a count again", Due.runOf(x, "a: go 1;"), 1);
+        Due.fine(x, "told(2)", x.told(2), 0);
+        Due.fine(x, "told(4): what a longer RUN ahead did is none of it", x.told(4), 1);
     }
 
     private static void dressedAsked() {
@@ -409,6 +437,8 @@ public final class FigureEdgeTest {
         Due.fine(none, "seen of none", none.seen(0, 59, 40), 0);
         DrillField one = still(30, 20);
         Due.fine(one, "seen of one", one.seen(0, 0, 1), 1);
+        DrillField corner = still(0, 5);
+        Due.fine(corner, "seen of one, over an empty corner", corner.seen(0, 0, 1), 1);
         // A step of 1 by 1 from 0, 1 below: 0, 0 is no SPOT of it; from 0, 40 below: 1, -39 is none.
         DrillField west = still(1, 0, 2, 1, 3, 2, 39, 38);
         Due.fine(west, "seen(0, 0, 1): one way", west.seen(0, 0, 1), 1);

@@ -255,6 +255,12 @@ public final class RosterEdgeTest {
         fillers(field(2, 0b10, 0b11, 0b11), 0, 0, 1, 0);
         fillers(field(3, 0b110, 0b011, 0b101), 0, 0, 1, 0, 2);
         fillers(field(2, 0, 0b11, 0, 0b11), 0, 0, 1, 3);
+        // 2 has none but PERSON 0, so 0 has to take the next one, and 1 the one behind.
+        fillers(field(3, 0b101, 0b011, 0b001, 0b011), 0, 0, 1, 3, 0);
+        fillers(field(3, 0b101, 0b110, 0b011, 0b011, 0b001), 0, 0, 0, 2, 1);
+        // A lesser PERSON comes free only when a MARCHER ahead is settled.
+        fillers(field(4, 0b1001, 0b0001, 0b0110, 0b0010), 0, 0, 1, 3, 2, 0);
+        fillers(field(5, 0b01001, 0b10010, 0b01100, 0b00011, 0b00110, 0b00100), 0, 0, 0, 3, 4, 2, 1);
         DrillField x = field(2, 0b11, 0b11, 0b11);
         x.away(0, 1, 1, 0);
         fillers(x, 1, 0, 1, 2);

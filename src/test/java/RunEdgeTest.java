@@ -38,6 +38,7 @@ public final class RunEdgeTest {
         feetByTurns();
         feetBehindHalt();
         feetOfEachLine();
+        feetOfEachRun();
         Due.end("RunEdgeTest");
     }
 
@@ -97,7 +98,13 @@ public final class RunEdgeTest {
         Due.is("the first LINE leads all, by numbers", Due.runOf(x, "a: wheel left 1; c: go 5;"), 5);
         Due.place(x, 1, 0, 10, 10, 6);
         Due.place(x, 5, 2, 10, 14, 6);
-        Due.is("a BODY of none is never off the ground", Due.runOf(x, "a:; c: go 99 back 40 close 5 9 shift 59 59 1;"), 149);
+        Due.is("a BODY of none is never off the ground", Due.runOf(x, "a:; c: go 50 back 40 follow 49 close 5 9 shift 59 59 1;"), 149);
+        Due.is("a BODY of none leads none", Due.runOf(x, "a:; c: follow 1 wheel left 1 open 5 1 turn 1 go 1 follow 1;"), 5);
+        for (int count = 0; count <= 5; count++) {
+            for (int marcher = 0; marcher < 3; marcher++) {
+                Due.place(x, count, marcher, 10 + 2 * marcher, 10, 0);
+            }
+        }
     }
 
     private static void twentyInABody() {
@@ -111,6 +118,17 @@ public final class RunEdgeTest {
         Due.place(x, 20, 0, 20, 0, 0);
         Due.place(x, 20, 19, 20, 19, 0);
         Due.place(x, 10, 19, 30, 10, 2);
+        Due.is("run", Due.runOf(x, "a: open 2 1 close 2 1 shift 0 9 1;"), 3);
+        Due.place(x, 1, 0, 20, 0, 2);
+        Due.place(x, 1, 19, 58, 0, 2);
+        Due.place(x, 2, 19, 39, 0, 2);
+        Due.place(x, 3, 0, 20, 9, 2);
+        Due.place(x, 3, 19, 39, 9, 2);
+        Due.error(x, "a: shift 0 18 1 wheel right 1;", 4, 16);
+        Due.error(x, "a: shift 0 19 1 wheel right 1;", 0, -1);
+        Due.is("run", Due.runOf(x, "a: follow 20;"), 20);
+        Due.place(x, 20, 0, 40, 0, 2);
+        Due.place(x, 20, 19, 21, 0, 2);
     }
 
     private static void groupsAsTheyWere() {
@@ -277,6 +295,10 @@ public final class RunEdgeTest {
             Due.place(x, 1, 0, 30, 20, 0);
             Due.place(x, 1, 1, 30 - k, 20 + 2 * k, 3);
             Due.place(x, 2, 1, 29, 22, 3);
+            DrillField first = Due.field(30, 20, 0, 30 - k, 20 + 2 * k, 3);
+            Due.is("run", Due.runOf(first, "a: close " + k + " 1;"), 1);
+            Due.place(first, 1, 0, 30, 20, 0);
+            Due.place(first, 1, 1, 29, 22, 3);
         }
         DrillField y = Due.field(10, 10, 0, 10, 10, 0);
         Due.is("none from the PIVOT stays none", Due.runOf(y, "a: open 5 99 close 5 51;"), 150);
@@ -388,6 +410,12 @@ public final class RunEdgeTest {
         String empty = "a: again 20 { again 20 { again 2 { } } } again 20 { turn 1 turn 1 turn 1 }";
         Due.error(x, empty + " again 17 { turn 1 };", 0, -1);
         Due.error(x, empty + " again 18 { turn 1 };", 1, empty.length() + 12);
+        // 1 + 20 x (21 + 3) and 19: as many agains as can be, each done twenty times.
+        String agains = "a: again 20 { again 20 { again 20 { } } again 20 { } again 20 { } again 20 { } }" + " again 20 { }".repeat(18);
+        Due.error(x, agains + " go 1;", 0, -1);
+        Due.place(x, 1, 0, 20, 21, 0);
+        Due.error(x, agains + " again 20 { };", 0, -1);
+        Due.error(x, agains + " again 20 { } go 1;", 1, agains.length() + 14);
         x.group(2, 1);
         Due.error(x, most + "; b: turn 1;", 0, -1);
         Due.error(x, "b: turn 1; " + most + ";", 0, -1);
@@ -642,5 +670,24 @@ public final class RunEdgeTest {
         notWell("a: mark 1 again 20 { turn 5 };", 20);
         notWell("a: again 3 { mark 1 turn 7 };", 2);
         notWell("", 0);
+    }
+
+    private static void feetOfEachRun() {
+        Due.says("Of a RUN");
+        DrillField x = Due.field(20, 20, 0);
+        for (int i = 0; i < 3; i++) {
+            Due.is("run", Due.runOf(x, "a: mark 1 turn 5 turn 5;"), 1);
+            Due.fine(x, "told(3): those of this RUN alone", x.told(3), 2);
+            Due.error(x, "a: mark 1 turn 5 go 99;", 4, 17);
+            Due.fine(x, "told(3): an ERROR's are none of it", x.told(3), 2);
+        }
+        // A turn takes no count, whatever ORDER stood in its place in a TEXT ahead.
+        for (int i = 0; i < 3; i++) {
+            Due.is("run", Due.runOf(x, "a: mark 1 mark 99;"), 100);
+            Due.is("run", Due.runOf(x, "a: turn 5 turn 5 turn 5;"), 0);
+            Due.fine(x, "told(3)", x.told(3), 0);
+            Due.is("run", Due.runOf(x, "a: again 2 { turn 5 };"), 0);
+            Due.fine(x, "told(3)", x.told(3), 0);
+        }
     }
 }
