@@ -258,6 +258,8 @@ public final class RosterEdgeTest {
         // 2 has none but PERSON 0, so 0 has to take the next one, and 1 the one behind.
         fillers(field(3, 0b101, 0b011, 0b001, 0b011), 0, 0, 1, 3, 0);
         fillers(field(3, 0b101, 0b110, 0b011, 0b011, 0b001), 0, 0, 0, 2, 1);
+        // 2 would have PERSON 2 or 4, but both are needed behind it: the choices tried go back.
+        fillers(field(6, 0b100011, 0b001001, 0b111100, 0b010110, 0b111100, 0b000100, 0b001011), 0, 0, 0, 3, 5, 1, 2, 4);
         // A lesser PERSON comes free only when a MARCHER ahead is settled.
         fillers(field(4, 0b1001, 0b0001, 0b0110, 0b0010), 0, 0, 1, 3, 2, 0);
         fillers(field(5, 0b01001, 0b10010, 0b01100, 0b00011, 0b00110, 0b00100), 0, 0, 0, 3, 4, 2, 1);
